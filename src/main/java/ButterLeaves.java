@@ -262,12 +262,14 @@ public final class ButterLeaves {
     }
 
     public int pass(int n, int i) throws IllegalArgumentException {
-        needLeaves(n);
-        int passes = Factors.fewestFor(n);
-        if (passes == NONE || i < 0 || i >= passes || unitsFor(passes) == NONE) {
+        if (wayTo(n, 0) == NONE) {
             return NONE;
         }
-        return 10 * searchedWays().waitOf(passes, i) + Factors.factorAt(n, i);
+        int passes = Passes.fewestFor(n);
+        if (i < 0 || i >= passes) {
+            return NONE;
+        }
+        return 10 * searchedWays().waitOf(passes, i) + Passes.factorAt(n, i);
     }
 
     public int fewest(int n, int what) throws IllegalArgumentException {
@@ -441,19 +443,12 @@ public final class ButterLeaves {
     private int wayTo(int n, int what) {
         needLeaves(n);
         needWhat(what, 1);
-        int passes = Factors.fewestFor(n);
+        int passes = Passes.fewestFor(n);
         if (passes == NONE) {
             return NONE;
         }
-        int units = unitsFor(passes);
-        if (units == NONE) {
-            return NONE;
-        }
-        return what == 0 ? units : passes;
-    }
-
-    private int unitsFor(int passes) {
-        return searchedWays().fewestUnits(house, firstUnit, passes);
+        int units = searchedWays().fewestUnits(house, firstUnit, passes);
+        return what == 0 || units == NONE ? units : passes;
     }
 
     private Passes searchedWays() {
@@ -835,59 +830,46 @@ public final class ButterLeaves {
             }
         }
 
-        void copyOf(Side former) {
-            shiftOf(former, 0, former.length);
-        }
-
         /** Some columns of the former side, from one on. */
-        void shiftOf(Side former, int from, int cells) {
+        void partOf(Side former, int from, int cells) {
             length = cells;
-            for (int i = 0; i < cells; i++) {
-                put(i, former, from + i);
+            for (int i = 0; i < cells && i < LONGEST; i++) {
+                int column = from + i;
+                if (column >= 0 && column < LONGEST) {
+                    sheets[i] = former.sheets[column];
+                    butter[i] = former.butter[column];
+                }
             }
         }
 
         void rollOf(Side former, int n) {
             length = former.length * n;
-            int i = 0;
-            for (int column = 0; column < former.length; column++) {
-                for (int copy = 0; copy < n; copy++) {
-                    put(i, former, column);
-                    i++;
+            for (int i = 0; i < length && i < LONGEST; i++) {
+                int column = n > 0 ? i / n : 0;
+                sheets[i] = former.sheets[column];
+                butter[i] = former.butter[column];
+            }
+        }
+
+        /** Folded in n parts: of three the middle one lies lowest, else the left one. */
+        void foldOf(Side former, int n) {
+            int part = n > 0 ? former.length / n : 0;
+            partOf(former, n == 3 ? part : 0, part);
+            for (int i = 0; i < part; i++) {
+                layOn(i, former, former.length - 1 - i);
+                if (n == 3) {
+                    layOn(i, former, part - 1 - i);
                 }
-            }
-        }
-
-        void halfOf(Side former) {
-            int half = former.length / 2;
-            shiftOf(former, 0, half);
-            for (int i = 0; i < half; i++) {
-                layOn(i, former, former.length - 1 - i);
-            }
-        }
-
-        void thirdOf(Side former) {
-            int third = former.length / 3;
-            shiftOf(former, third, third);
-            for (int i = 0; i < third; i++) {
-                layOn(i, former, former.length - 1 - i);
-                layOn(i, former, third - 1 - i);
-            }
-        }
-
-        void quarterOf(Side former) {
-            int quarter = former.length / 4;
-            shiftOf(former, 0, quarter);
-            for (int i = 0; i < quarter; i++) {
-                layOn(i, former, 4 * quarter - 1 - i);
-                layOn(i, former, 2 * quarter - 1 - i);
-                layOn(i, former, 2 * quarter + i);
+                if (n == 4) {
+                    layOn(i, former, 2 * part - 1 - i);
+                    layOn(i, former, 2 * part + i);
+                }
             }
         }
 
         void bookOf(Side former) {
             int quarter = former.length / 4;
-            shiftOf(former, quarter, quarter);
+            partOf(former, quarter, quarter);
             for (int i = 0; i < quarter; i++) {
                 layOn(i, former, quarter - 1 - i);
                 layOn(i, former, 3 * quarter - 1 - i);
@@ -897,17 +879,10 @@ public final class ButterLeaves {
 
         void tuckOf(Side former, int n) {
             int inner = former.length - 2 * n;
-            shiftOf(former, n, inner);
+            partOf(former, n, inner);
             for (int i = 0; i < n; i++) {
                 layOn(i, former, n - 1 - i);
                 layOn(inner - 1 - i, former, former.length - n + i);
-            }
-        }
-
-        private void put(int to, Side former, int column) {
-            if (to >= 0 && to < LONGEST && column >= 0 && column < LONGEST) {
-                sheets[to] = former.sheets[column];
-                butter[to] = former.butter[column];
             }
         }
 
@@ -992,12 +967,8 @@ public final class ButterLeaves {
             thinness = former.thinness;
             laid = former.laid;
             cutAway = former.cutAway;
-            if (kind == TURN) {
-                across.copyOf(former.down);
-                down.copyOf(former.across);
-                return;
-            }
-            down.copyOf(former.down);
+            Side formerDown = kind == TURN ? former.across : former.down;
+            down.partOf(formerDown, 0, formerDown.length);
             switch (kind) {
                 case ROLL:
                     across.rollOf(former.across, n);
@@ -1005,7 +976,8 @@ public final class ButterLeaves {
                     cutAway *= n;
                     break;
                 case FOLD:
-                    foldOf(former.across, n);
+                    across.foldOf(former.across, n);
+                    layEach((n - 1) * across.length);
                     break;
                 case BOOK:
                     across.bookOf(former.across);
@@ -1018,26 +990,18 @@ public final class ButterLeaves {
                 case CUT:
                     cutOf(former.across, n);
                     break;
+                case TURN:
+                    across.partOf(former.down, 0, former.down.length);
+                    break;
                 default:
-                    across.copyOf(former.across);
+                    across.partOf(former.across, 0, former.across.length);
                     break;
             }
         }
 
-        private void foldOf(Side former, int n) {
-            if (n == 2) {
-                across.halfOf(former);
-            } else if (n == 3) {
-                across.thirdOf(former);
-            } else {
-                across.quarterOf(former);
-            }
-            layEach((n - 1) * across.length);
-        }
-
         private void cutOf(Side former, int n) {
             int inner = former.length - 2 * n;
-            across.shiftOf(former, n, inner);
+            across.partOf(former, n, inner);
             long columns = former.sheetsIn(0, n) + former.sheetsIn(n + inner, n);
             cutAway += columns * down.sheetsIn(0, down.length);
         }
@@ -1239,44 +1203,6 @@ public final class ButterLeaves {
         }
     }
 
-    /** Numbers as products of the passes' 2, 3 and 4, of the fewest, the least ones first. */
-    private static final class Factors {
-        private Factors() {
-        }
-
-        static int fewestFor(int n) {
-            int twos = times(n, 2);
-            int threes = times(n, 3);
-            return power(2, twos) * power(3, threes) == n ? (twos + 1) / 2 + threes : NONE;
-        }
-
-        static int factorAt(int n, int i) {
-            int odd = times(n, 2) % 2;
-            if (i < odd) {
-                return 2;
-            }
-            return i < odd + times(n, 3) ? 3 : 4;
-        }
-
-        private static int times(int n, int prime) {
-            int left = n;
-            int found = 0;
-            for (int i = 0; i < 31 && prime > 1 && left > 0 && left % prime == 0; i++) {
-                left /= prime;
-                found++;
-            }
-            return found;
-        }
-
-        private static int power(int base, int exponent) {
-            int product = 1;
-            for (int i = 0; i < exponent; i++) {
-                product *= base;
-            }
-            return product;
-        }
-    }
-
     /**
      * The soonest ways by number of passes, whatever the factors are: they cost the same. States (passes done,
      * warmth) are gone through unit by unit; a pass takes 3 to 15 units, so 16 slots in a ring hold all to come.
@@ -1305,6 +1231,36 @@ public final class ButterLeaves {
         private int high;
         private int rub;
         boolean known;
+
+        /** Of how many 2, 3 and 4 a number is the product, at the fewest; NONE if it is no such product. */
+        static int fewestFor(int n) {
+            int twos = timesIn(n, 2);
+            int threes = timesIn(n, 3);
+            int product = 1 << twos;
+            for (int i = 0; i < threes; i++) {
+                product *= 3;
+            }
+            return product == n ? (twos + 1) / 2 + threes : NONE;
+        }
+
+        /** The i-th of these factors, the least ones first. */
+        static int factorAt(int n, int i) {
+            int oddTwos = timesIn(n, 2) % 2;
+            if (i < oddTwos) {
+                return 2;
+            }
+            return i < oddTwos + timesIn(n, 3) ? 3 : 4;
+        }
+
+        private static int timesIn(int n, int prime) {
+            int left = n;
+            int found = 0;
+            for (int i = 0; i < 31 && prime > 1 && left > 0 && left % prime == 0; i++) {
+                left /= prime;
+                found++;
+            }
+            return found;
+        }
 
         int fewestUnits(Kitchen house, int firstUnit, int passes) {
             if (passes < 0 || passes > MOST_PASSES) {
@@ -1424,17 +1380,24 @@ public final class ButterLeaves {
             int place = slot * WARMTHS + warm;
             if (codes[place] == 0 || code + 1 < codes[place]) {
                 codes[place] = code + 1;
-                coldest[slot] = Math.min(coldest[slot], warm);
-                warmest[slot] = Math.max(warmest[slot], warm);
+                coldest[slot] = coldest[slot] < warm ? coldest[slot] : warm;
+                warmest[slot] = warmest[slot] > warm ? warmest[slot] : warm;
             }
         }
     }
 
-    /** The best order of all blocks on one bench: all orders are tried, the first ones first. */
+    /**
+     * The best order of all blocks on one bench: orders are tried, the first ones first, but for those that can't be
+     * done sooner than the best one known, or that an earlier order of the same blocks has outdone.
+     */
     private static final class Bench {
         static final int MOST_BLOCKS = 12;
         private static final int ROW = MOST_STEPS + 2;
         private static final int NEVER = 1000000;
+        /** Four recipes of three blocks each have the most ways to be partly done: 4 to the fourth power. */
+        private static final int MOST_PARTS = 256;
+        private static final int KEPT = 2;
+        private static final int MARK = MOST_RECIPES + 1;
 
         /** By recipe and block: units of the block, rests ahead of it, and all that is due from its begin on. */
         private final int[] units = new int[MOST_RECIPES * ROW];
@@ -1445,6 +1408,9 @@ public final class ButterLeaves {
         private final int[] ready = new int[MOST_RECIPES];
         private final int[] order = new int[MOST_BLOCKS];
         private final int[] starts = new int[MOST_BLOCKS];
+        /** By what is done: the latest few ways to it, each by the times at which all can go on. */
+        private final int[] marks = new int[MOST_PARTS * KEPT * MARK];
+        private final int[] markCounts = new int[MOST_PARTS];
         final int[] bestOrder = new int[MOST_BLOCKS];
         final int[] bestStarts = new int[MOST_BLOCKS];
         private int recipeCount;
@@ -1468,12 +1434,17 @@ public final class ButterLeaves {
                     partInBlocks(recipes[r], r);
                 }
             }
-            bestDone = NEVER;
-            bestEnd = 0;
-            workLeft = work;
-            if (total <= MOST_BLOCKS) {
-                placeNext(0, 0);
+            if (total > MOST_BLOCKS) {
+                return;
             }
+            for (int i = 0; i < MOST_PARTS; i++) {
+                markCounts[i] = 0;
+            }
+            // The first order that is as good as a quick guess is looked for, not only better ones.
+            bestDone = quickDone() + 1;
+            bestEnd = 0;
+            goBack();
+            placeNext(0, 0);
         }
 
         int idleUnits() {
@@ -1491,23 +1462,23 @@ public final class ButterLeaves {
                     units[row + block] += taken;
                     continue;
                 }
-                if (units[row + block] > 0) {
-                    block++;
-                    units[row + block] = 0;
-                    rests[row + block] = 0;
-                }
+                block = endBlock(row, block);
                 rests[row + block] += taken;
             }
-            if (units[row + block] > 0) {
-                block++;
-                units[row + block] = 0;
-                rests[row + block] = 0;
-            }
+            block = endBlock(row, block);
             sizes[r] = block;
             total += block;
-            next[r] = 0;
-            ready[r] = rests[row];
             countDue(row, block);
+        }
+
+        /** Steps of no units are no block: then what comes next goes on where these were. */
+        private int endBlock(int row, int block) {
+            if (units[row + block] == 0) {
+                return block;
+            }
+            units[row + block + 1] = 0;
+            rests[row + block + 1] = 0;
+            return block + 1;
         }
 
         private void countDue(int row, int blocks) {
@@ -1516,6 +1487,57 @@ public final class ButterLeaves {
                 work += units[row + block];
                 due[row + block] = units[row + block] + rests[row + block + 1] + due[row + block + 1];
             }
+        }
+
+        private void goBack() {
+            workLeft = work;
+            for (int r = 0; r < recipeCount; r++) {
+                next[r] = 0;
+                ready[r] = rests[r * ROW];
+            }
+        }
+
+        /** When all are done if always the block that can begin first does, of these the one with the most due. */
+        private int quickDone() {
+            goBack();
+            int free = 0;
+            for (int placed = 0; placed < total && placed < MOST_BLOCKS; placed++) {
+                int r = quickNext(free);
+                if (r == NONE) {
+                    break;
+                }
+                int place = r * ROW + next[r];
+                free = Math.max(free, ready[r]) + units[place];
+                ready[r] = free + rests[place + 1];
+                next[r]++;
+            }
+            return lastReady();
+        }
+
+        private int quickNext(int free) {
+            int found = NONE;
+            int foundStart = 0;
+            int foundDue = 0;
+            for (int r = 0; r < recipeCount; r++) {
+                if (next[r] < sizes[r]) {
+                    int start = Math.max(free, ready[r]);
+                    int rest = due[r * ROW + next[r]];
+                    if (found == NONE || start < foundStart || start == foundStart && rest > foundDue) {
+                        found = r;
+                        foundStart = start;
+                        foundDue = rest;
+                    }
+                }
+            }
+            return found;
+        }
+
+        private int lastReady() {
+            int last = 0;
+            for (int r = 0; r < recipeCount; r++) {
+                last = Math.max(last, ready[r]);
+            }
+            return last;
         }
 
         private void placeNext(int placed, int free) {
@@ -1538,7 +1560,7 @@ public final class ButterLeaves {
             next[r]++;
             ready[r] = end + rests[place + 1];
             workLeft -= units[place];
-            if (leastDone(end) < bestDone) {
+            if (leastDone(end) < bestDone && !outdone(end)) {
                 order[placed] = r;
                 starts[placed] = start;
                 placeNext(placed + 1, end);
@@ -1554,10 +1576,10 @@ public final class ButterLeaves {
             int firstStart = NEVER;
             int leastRest = NEVER;
             for (int r = 0; r < recipeCount; r++) {
+                int start = canGoOn(r, free);
                 if (next[r] >= sizes[r]) {
-                    least = Math.max(least, ready[r]);
+                    least = Math.max(least, start);
                 } else {
-                    int start = Math.max(free, ready[r]);
                     least = Math.max(least, start + due[r * ROW + next[r]]);
                     firstStart = Math.min(firstStart, start);
                     leastRest = Math.min(leastRest, rests[r * ROW + sizes[r]]);
@@ -1566,11 +1588,48 @@ public final class ButterLeaves {
             return workLeft > 0 ? Math.max(least, firstStart + workLeft + leastRest) : least;
         }
 
-        private void keepOrder(int end) {
-            int done = 0;
+        /** When a recipe's next block can begin, or when it is done. */
+        private int canGoOn(int r, int free) {
+            return next[r] < sizes[r] && ready[r] < free ? free : ready[r];
+        }
+
+        /** Whether an earlier order of the same blocks lets all go on as soon; if none does, this one is kept. */
+        private boolean outdone(int free) {
+            int part = 0;
             for (int r = 0; r < recipeCount; r++) {
-                done = Math.max(done, ready[r]);
+                part = part * (sizes[r] + 1) + next[r];
             }
+            if (part < 0 || part >= MOST_PARTS) {
+                return false;
+            }
+            for (int i = 0; i < KEPT && i < markCounts[part]; i++) {
+                if (isNoLater((part * KEPT + i) * MARK, free)) {
+                    return true;
+                }
+            }
+            int mark = (part * KEPT + markCounts[part] % KEPT) * MARK;
+            markCounts[part]++;
+            marks[mark] = free;
+            for (int r = 0; r < recipeCount; r++) {
+                marks[mark + 1 + r] = canGoOn(r, free);
+            }
+            return false;
+        }
+
+        private boolean isNoLater(int mark, int free) {
+            if (marks[mark] > free) {
+                return false;
+            }
+            for (int r = 0; r < recipeCount; r++) {
+                if (marks[mark + 1 + r] > canGoOn(r, free)) {
+                    return false;
+                }
+            }
+            return true;
+        }
+
+        private void keepOrder(int end) {
+            int done = lastReady();
             if (done >= bestDone) {
                 return;
             }
