@@ -1397,7 +1397,6 @@ public final class ButterLeaves {
         /** Four recipes of three blocks each have the most ways to be partly done: 4 to the fourth power. */
         private static final int MOST_PARTS = 256;
         private static final int KEPT = 2;
-        private static final int MARK = MOST_RECIPES + 1;
 
         /** By recipe and block: units of the block, rests ahead of it, and all that is due from its begin on. */
         private final int[] units = new int[MOST_RECIPES * ROW];
@@ -1409,7 +1408,7 @@ public final class ButterLeaves {
         private final int[] order = new int[MOST_BLOCKS];
         private final int[] starts = new int[MOST_BLOCKS];
         /** By what is done: the latest few ways to it, each by the times at which all can go on. */
-        private final int[] marks = new int[MOST_PARTS * KEPT * MARK];
+        private final int[] marks = new int[MOST_PARTS * KEPT * MOST_RECIPES];
         private final int[] markCounts = new int[MOST_PARTS];
         final int[] bestOrder = new int[MOST_BLOCKS];
         final int[] bestStarts = new int[MOST_BLOCKS];
@@ -1603,25 +1602,21 @@ public final class ButterLeaves {
                 return false;
             }
             for (int i = 0; i < KEPT && i < markCounts[part]; i++) {
-                if (isNoLater((part * KEPT + i) * MARK, free)) {
+                if (isNoLater((part * KEPT + i) * MOST_RECIPES, free)) {
                     return true;
                 }
             }
-            int mark = (part * KEPT + markCounts[part] % KEPT) * MARK;
+            int mark = (part * KEPT + markCounts[part] % KEPT) * MOST_RECIPES;
             markCounts[part]++;
-            marks[mark] = free;
             for (int r = 0; r < recipeCount; r++) {
-                marks[mark + 1 + r] = canGoOn(r, free);
+                marks[mark + r] = canGoOn(r, free);
             }
             return false;
         }
 
         private boolean isNoLater(int mark, int free) {
-            if (marks[mark] > free) {
-                return false;
-            }
             for (int r = 0; r < recipeCount; r++) {
-                if (marks[mark + 1 + r] > canGoOn(r, free)) {
+                if (marks[mark + r] > canGoOn(r, free)) {
                     return false;
                 }
             }

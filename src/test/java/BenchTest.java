@@ -94,6 +94,10 @@ public final class BenchTest {
         hardest("rest 10;stand 30;rest 5;stand 10;rest 10;stand 32;rest 24;",
                 "rest 10;stand 24;rest 11;stand 2;rest 4;stand 18;rest 28;",
                 "stand 25;rest 1;stand 29;rest 1;stand 10;rest 8;stand 3;rest 14;", "stand 14;rest 7;stand 36;rest 29;");
+        hardest("stand 4;rest 2;stand 5;rest 10;stand 5;rest 1;", "rest 12;stand 7;rest 9;stand 6;rest 3;",
+                "stand 9;rest 4;stand 11;rest 7;", "stand 6;rest 8;stand 9;rest 4;stand 1;rest 12;stand 7;");
+        hardest("stand 7;rest 9;stand 4;rest 11;stand 9;rest 8;stand 6;", "stand 5;", "stand 5;",
+                "rest 5;stand 6;rest 7;stand 4;rest 2;stand 6;rest 2;stand 6;");
         hardest("roll 2;rest 4;roll 2;rest 4;roll 2;rest 4;roll 2;rest 4;",
                 "roll 2;rest 4;roll 2;rest 4;roll 2;rest 4;roll 2;rest 4;",
                 "roll 2;rest 4;roll 2;rest 4;roll 2;rest 4;roll 2;rest 4;", "rest 30;");

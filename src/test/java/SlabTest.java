@@ -6,6 +6,7 @@ public final class SlabTest {
         stuck();
         folds();
         tuckAndCut();
+        joins();
         turnAndRim();
         stacks();
         blocks();
@@ -113,6 +114,24 @@ public final class SlabTest {
         Check.due("none of butter", x.joins(0, 2, 1), 0);
     }
 
+    private static void joinsOf(String recipe, int joins) {
+        ButterLeaves x = Check.with("slab 12 5 2;", recipe);
+        Check.due("joins of " + recipe, x.joins(0, 1, 0), joins);
+        Check.due("joins of butter of " + recipe, x.joins(0, 1, 1), 0);
+    }
+
+    private static void joins() {
+        joinsOf("roll 2;", 0);
+        joinsOf("fold 2;", 30);
+        joinsOf("fold 3;", 40);
+        joinsOf("fold 4;", 45);
+        joinsOf("book;", 45);
+        joinsOf("tuck 3;", 30);
+        joinsOf("cut 5;", 0);
+        joinsOf("turn;", 0);
+        joinsOf("rest 4;", 0);
+    }
+
     private static void turnAndRim() {
         ButterLeaves x = Check.with("slab 6 3 1;", "turn;fold 3;turn;roll 2;");
         Check.due("butter at first", x.leaf(0, 0, 4, 1, 1), 1);
@@ -186,6 +205,8 @@ public final class SlabTest {
         Check.due("and 4 columns of 7 cells of 3", x.trimmed(0, 5, 0), 168);
         Check.due("whole", x.trimmed(0, 5, 1), 1);
         Check.due("no tuck of 2", x.steps(0, 1), 5);
+        ButterLeaves z = Check.with("slab 6 4 0;weight 240;", "turn;fold 2;turn;cut 1;");
+        Check.due("twice as thick: two columns of two cells of 20", z.trimmed(0, 4, 0), 80);
         ButterLeaves y = Check.with("slab 7 11 0;weight 9999;", "roll 4;cut 9;");
         Check.due("above", y.weight(0, 1, 0, 0, 0), 909);
         Check.due("below", y.weight(0, 1, 0, 0, 1), 28);

@@ -97,6 +97,8 @@ public final class WarmthTest {
         Check.due("never breaks", y.latest(1), 287);
         ButterLeaves z = Check.with("room 0 21;room 1 0;high 5;", "stand 1;");
         Check.due("only in hour 0 it runs", z.latest(0), 287);
+        ButterLeaves v = Check.with("room 0 0;room 1 40;high 4;", "stand 12;");
+        Check.due("only the whole of hour 0 is cold enough", v.latest(0), 0);
         ButterLeaves w = Check.with("room 0 0;room 1 21;high 5;", "stand 1;");
         Check.due("only in hour 0 it does not", w.latest(0), 11);
     }

@@ -5,6 +5,7 @@ public final class WaysTest {
         factors();
         waits();
         hours();
+        againstModel();
         wrongInputs();
         Check.end();
     }
@@ -97,6 +98,34 @@ public final class WaysTest {
         x.begin(84);
         x.restore();
         way(x, 2, -1);
+    }
+
+    /** Kitchens in which several ways take as long, or the longest waits are needed. */
+    private static void againstModel() {
+        String[] kitchens = {"box 6;low 5;high 22;rub 3;room 23 25;room 19 40;room 1 0;start 5;",
+            "box 9;low 6;high 14;rub 49;room 6 1;start 21;", "box 4;low 4;high 9;rub 38;room 8 6;room 19 27;room 9 0;start 9;",
+            "box 6;low 4;high 18;rub 58;room 18 6;room 14 26;start 17;",
+            "box 7;low 1;high 16;rub 55;room 15 0;room 0 36;room 22 11;start 14;",
+            "box 9;low 2;high 9;rub 0;room 8 32;room 21 5;start 20;", "box 2;low 2;high 13;rub 25;room 17 33;room 1 4;room 6 16;start 23;",
+            "box 1;low 0;high 9;rub 27;start 0;", "box 5;low 9;high 12;rub 24;room 21 11;start 20;",
+            "box 4;low 8;high 13;rub 24;room 22 10;start 2;", "box 40;low 40;high 40;rub 0;room 3 40;"};
+        int[] leaves = {2, 4, 6, 27, 48, 81, 243, 729};
+        for (String kitchen : kitchens) {
+            ButterLeaves x = Check.with(kitchen);
+            Model model = new Model();
+            byte[] bytes = Check.bytes(kitchen);
+            for (int from = 0; from < bytes.length; from += 20) {
+                model.feed(Check.numbers(bytes, from));
+            }
+            model.kitchen(bytes.length);
+            for (int n : leaves) {
+                int[] best = model.bestWay(n, false);
+                int[] few = model.bestWay(n, true);
+                Check.due("ways in " + kitchen, java.util.Arrays.equals(best, few) ? 1 : 0, 1);
+                way(x, n, best == null ? -1 : best[0],
+                        best == null ? new int[0] : java.util.Arrays.copyOfRange(best, 2, best.length));
+            }
+        }
     }
 
     private static void wrongInputs() {
