@@ -3,6 +3,7 @@ import java.nio.charset.StandardCharsets;
 /** What the tests share: texts put on the tape, answers held against those that are due, and the end of a test. */
 final class Check {
     private static int wrong = 0;
+    private static String sentence = "";
 
     private Check() {
     }
@@ -12,10 +13,18 @@ final class Check {
         long answer();
     }
 
+    /** From here on all is of these words of the document, which must stand there; a fault is told with them. */
+    static void sentence(String part, String words) {
+        sentence = part + " (" + words + ") ";
+        if (!Doc.quote(part, words)) {
+            say("these words do not stand there");
+        }
+    }
+
     static void due(String call, long got, long want) {
         if (got != want) {
             wrong++;
-            System.out.println(call + " answered " + got + ", due is " + want);
+            System.out.println(sentence + call + " answered " + got + ", due is " + want);
         }
     }
 
@@ -30,7 +39,7 @@ final class Check {
             got = e.getClass().getName();
         }
         wrong++;
-        System.out.println(call + " answered " + got + ", due is a throw of " + want.getName());
+        System.out.println(sentence + call + " answered " + got + ", due is a throw of " + want.getName());
     }
 
     static void dueIllegal(String call, Call made) {
@@ -47,7 +56,7 @@ final class Check {
 
     static void say(String fault) {
         wrong++;
-        System.out.println(fault);
+        System.out.println(sentence + fault);
     }
 
     static boolean allWell() {
