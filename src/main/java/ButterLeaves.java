@@ -818,6 +818,9 @@ public final class ButterLeaves {
      * the column counts times what the row counts.
      */
     private static final class Side {
+        /** Above all that a column can count: a recipe's twenty steps lay far less than this. */
+        private static final long BEYOND = 1L << 60;
+
         final long[] sheets = new long[LONGEST];
         final long[] butter = new long[LONGEST];
         int length;
@@ -910,7 +913,7 @@ public final class ButterLeaves {
         }
 
         long smallest(long[] numbers) {
-            long found = Long.MAX_VALUE;
+            long found = BEYOND;
             for (int i = 0; i < length && i < numbers.length; i++) {
                 found = Math.min(found, numbers[i]);
             }

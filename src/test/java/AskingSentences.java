@@ -220,6 +220,11 @@ final class AskingSentences {
         // 2 1 1 1 2 one way behind the first tuck, 0 1 1 1 1 1 1 1 0 the other way, till the second tuck takes it in.
         long[][] due = {{1, 0, 1}, {1, 0, 1}, {1, 0, 1}, {2, 1, 1}, {2, 1, 1}};
         extremes(x, due, false);
+        // 0 2 2 2 2 2 one way, all of them 1 the other way: the first row alone has none.
+        ButterLeaves y = Check.with("slab 12 12 1;", "fold 2;turn;tuck 1;cut 1;");
+        Check.due("no butter in the first row", y.least(0, 4, 1), 0);
+        Check.due("nor in another", y.having(0, 4, 0), y.behind(0, 4, 0));
+        Check.due("one of dough there", y.least(0, 4, 0), 1);
     }
 
     private static void extremes(ButterLeaves x, long[][] due, boolean most) {

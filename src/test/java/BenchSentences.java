@@ -130,13 +130,7 @@ final class BenchSentences {
 
     private static void againstAll(String[] recipes) {
         Model model = new Model();
-        for (String text : recipes) {
-            byte[] bytes = Check.bytes(text);
-            for (int from = 0; from < bytes.length; from += 20) {
-                model.feed(Check.numbers(bytes, from));
-            }
-            model.recipe(bytes.length);
-        }
+        model.tell("", recipes);
         int[] best = model.bestBench();
         bench(recipes, best[0], best[2], Arrays.copyOfRange(best, 3, best.length));
     }

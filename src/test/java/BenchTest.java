@@ -107,13 +107,7 @@ public final class BenchTest {
         ButterLeaves x = Check.with("", recipes);
         Model model = new Model();
         model.mostBlocks = 12;
-        for (String text : recipes) {
-            byte[] bytes = Check.bytes(text);
-            for (int from = 0; from < bytes.length; from += 20) {
-                model.feed(Check.numbers(bytes, from));
-            }
-            model.recipe(bytes.length);
-        }
+        model.tell("", recipes);
         int[] best = model.bestBench();
         bench(x, best[0], best[2], java.util.Arrays.copyOfRange(best, 3, best.length));
     }

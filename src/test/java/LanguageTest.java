@@ -13,7 +13,8 @@ import java.util.regex.Pattern;
 public final class LanguageTest {
     private static final String[] FORBIDDEN = {"->", "::", "Exact\\(", "static\\s*\\{", "\\bfinally\\b", "\\bcatch\\b",
         "\\bsynchronized\\b", "\\bassert\\b", "\\bvar\\b", "\\bpackage\\b", "hashCode", "\\.ordinal\\(",
-        "\\.getMessage", "System\\.(?!arraycopy)", "Math\\.(?!min\\(|max\\(|abs\\()", "(==|!=)\\s*\"", "\"\\s*\\+"};
+        "\\.getMessage", "System\\.(?!arraycopy)", "Math\\.(?!min\\(|max\\(|abs\\()", "(==|!=)\\s*\"", "\"\\s*\\+",
+        "\\b(Long|Integer)\\.[A-Z]", "\\bnew Object\\b"};
 
     public static void main(String[] args) throws IOException {
         String source = Files.readString(Path.of("src/main/java/ButterLeaves.java"));
@@ -59,8 +60,11 @@ public final class LanguageTest {
             Check.say("the face is " + found);
         }
         Class<?>[] inside = ButterLeaves.class.getDeclaredClasses();
+        staticFields(ButterLeaves.class);
         Check.due("classes within twelve", inside.length < 12 ? 1 : 0, 1);
         for (Class<?> nested : inside) {
+            staticFields(nested);
+            Check.due(nested + " is static", nested.getModifiers() & Modifier.STATIC, Modifier.STATIC);
             int fields = 0;
             for (java.lang.reflect.Field field : nested.getDeclaredFields()) {
                 fields += Modifier.isStatic(field.getModifiers()) ? 0 : 1;
@@ -70,6 +74,17 @@ public final class LanguageTest {
                 if (face.contains(method.getName()) || method.getParameterCount() > 7) {
                     Check.say("a name of the face, or too many parameters: " + method);
                 }
+            }
+        }
+    }
+
+    /** Rule 5: constants alone, and rows of numbers written out. */
+    private static void staticFields(Class<?> type) {
+        for (java.lang.reflect.Field field : type.getDeclaredFields()) {
+            if (Modifier.isStatic(field.getModifiers())) {
+                String kind = field.getType().getSimpleName().replace("[]", "");
+                Check.due(field + " is final", field.getModifiers() & Modifier.FINAL, Modifier.FINAL);
+                Check.due(field + " is a constant", "int long boolean char byte String".contains(kind) ? 1 : 0, 1);
             }
         }
     }

@@ -298,6 +298,23 @@ final class Model {
         }
     }
 
+    /** A kitchen and recipes, each as a whole text; what can't be told is left out. */
+    void tell(String kitchen, String... texts) {
+        feedAll(kitchen);
+        kitchen(Check.bytes(kitchen).length);
+        for (String text : texts) {
+            feedAll(text);
+            recipe(Check.bytes(text).length);
+        }
+    }
+
+    private void feedAll(String text) {
+        byte[] bytes = Check.bytes(text);
+        for (int from = 0; from < bytes.length; from += 20) {
+            feed(Check.numbers(bytes, from));
+        }
+    }
+
     // ---- the slab
 
     private State firstState() {

@@ -8,6 +8,7 @@ public final class SentencesTest {
         BenchSentences.all();
         TellingSentences.all();
         AskingSentences.all();
+        AgainSentences.all();
         Check.due("parts of the document", Doc.partCount(), 35);
         for (String left : Doc.unquoted()) {
             Check.say("not quoted by any test: " + left);

@@ -1,6 +1,12 @@
+import java.math.BigInteger;
+
 /** Part 2 of 'Terms', sentence by sentence: the slab, what each step does to it, where it is stuck, weights. */
 final class SlabSentences {
     private static final String PART = "Terms 2";
+    /** Steps behind which the columns of 12 are a number that 4 parts, and unlike those at the other end. */
+    private static final String[] UNLIKE = {"fold 3;", "fold 2;roll 2;", "fold 2;roll 4;", "fold 2;roll 4;cut 2;",
+        "fold 2;roll 4;tuck 2;", "fold 2;roll 4;tuck 4;", "fold 2;roll 3;cut 1;", "fold 2;roll 3;tuck 1;", "tuck 1;fold 2;roll 4;",
+        "tuck 1;fold 2;roll 4;cut 2;", "fold 2;tuck 1;roll 3;", "fold 2;tuck 1;roll 4;cut 2;", "fold 2;roll 4;tuck 5;roll 2;cut 4;"};
 
     private SlabSentences() {
     }
@@ -26,6 +32,7 @@ final class SlabSentences {
         stuck();
         weights();
         trimmed();
+        againstStacks();
     }
 
     /** Sheets and butter of each column behind all steps, in a row that has butter at first. */
@@ -70,8 +77,9 @@ final class SlabSentences {
     }
 
     private static void firstCells(int across, int down, int rim) {
-        ButterLeaves x = Check.with("slab " + across + " " + down + " " + rim + ";", "turn;");
+        ButterLeaves x = null;
         for (int i = 0; i < across; i++) {
+            x = Check.with("slab " + across + " " + down + " " + rim + ";", "turn;");
             for (int j = 0; j < down; j++) {
                 boolean less = i < rim || j < rim || across - 1 - i < rim || down - 1 - j < rim;
                 String cell = "rim " + rim + ", cell " + i + ", " + j;
@@ -163,15 +171,15 @@ final class SlabSentences {
         columns("slab 12 3 1;", "fold 4;", of(4, 4, 4), of(2, 4, 4));
         columns("slab 12 2 0;", "tuck 1;roll 2;fold 4;", of(6, 6, 4, 4, 4), of(6, 6, 4, 4, 4));
         columns("slab 4 2 0;", "fold 4;", of(4), of(4));
-        String[] kitchens = {"slab 12 12 0;", "slab 12 12 1;", "slab 8 12 3;", "slab 4 4 1;"};
-        for (String kitchen : kitchens) {
-            ButterLeaves x = Check.with(kitchen, "roll 2;tuck 1;cut 1;fold 4;", "roll 2;tuck 1;cut 1;fold 2;fold 2;");
-            int done = x.steps(0, 1);
-            Check.due(kitchen + " both are done or both stuck", x.steps(1, 1), done == 4 ? 5 : done);
-            for (int i = 0; done == 4 && i < x.behind(0, 4, 0); i++) {
-                Check.due(kitchen + " sheets " + i, x.leaf(0, 4, i, 1, 4), x.leaf(1, 5, i, 1, 4));
-                Check.due(kitchen + " butter " + i, x.leaf(0, 4, i, 1, 1), x.leaf(1, 5, i, 1, 1));
-                Check.due(kitchen + " joins", x.joins(0, 4, 0), x.joins(1, 5, 0));
+        // Ends that are unlike: 0 2 2 2, then 0 0 2 2 2 2 2 2, and others behind a cut or a tuck.
+        for (String ahead : UNLIKE) {
+            int k = ahead.split(";").length;
+            ButterLeaves x = Check.with("slab 12 5 1;", ahead + "fold 4;", ahead + "fold 2;fold 2;");
+            Check.due(ahead + " all done", x.steps(0, 1) + x.steps(1, 1), 2 * k + 3);
+            for (int i = 0; i < x.behind(0, k + 1, 0); i++) {
+                Check.due(ahead + " sheets " + i, x.leaf(0, k + 1, i, 1, 4), x.leaf(1, k + 2, i, 1, 4));
+                Check.due(ahead + " butter " + i, x.leaf(0, k + 1, i, 1, 1), x.leaf(1, k + 2, i, 1, 1));
+                Check.due(ahead + " joins", x.joins(0, k + 1, 0), x.joins(1, k + 2, 0));
             }
         }
     }
@@ -214,8 +222,8 @@ final class SlabSentences {
 
     private static void turn() {
         Check.sentence(PART, "turn: X and Y change places (the CELL at x, y to y, x).");
-        ButterLeaves x = Check.with("slab 12 9 1;", "tuck 1;fold 2;turn;fold 3;turn;turn;");
         for (int k = 2; k < 6; k++) {
+            ButterLeaves x = Check.with("slab 12 9 1;", "tuck 1;fold 2;turn;fold 3;turn;turn;");
             if (x.step(0, k, 0) == 5) {
                 int across = x.behind(0, k, 0);
                 int down = x.behind(0, k, 1);
@@ -381,7 +389,7 @@ final class SlabSentences {
             ButterLeaves x = Check.with(kitchen, recipes);
             for (int r = 0; r < recipes.length; r++) {
                 for (int k = 0; k <= x.steps(r, 1); k++) {
-                    wholeWeight(x, r, k, kitchen + recipes[r] + " behind " + k);
+                    wholeWeight(kitchen, recipes[r], k);
                 }
             }
         }
@@ -400,23 +408,72 @@ final class SlabSentences {
     }
 
     /** What is trimmed and what is left is the whole slab, as fractions; and each is in least terms. */
-    private static void wholeWeight(ButterLeaves x, int r, int k, String told) {
-        java.math.BigInteger above = java.math.BigInteger.valueOf(x.trimmed(r, k, 0));
-        java.math.BigInteger below = java.math.BigInteger.valueOf(x.trimmed(r, k, 1));
+    private static void wholeWeight(String kitchen, String recipe, int k) {
+        String told = kitchen + recipe + " behind " + k;
+        ButterLeaves x = Check.with(kitchen, recipe);
+        BigInteger above = BigInteger.valueOf(x.trimmed(0, k, 0));
+        BigInteger below = BigInteger.valueOf(x.trimmed(0, k, 1));
         Check.due(told + " trimmed in least terms", above.gcd(below).intValue(), 1);
-        for (int i = 0; i < x.behind(r, k, 0); i++) {
-            for (int j = 0; j < x.behind(r, k, 1); j++) {
-                java.math.BigInteger a = java.math.BigInteger.valueOf(x.weight(r, k, i, j, 0));
-                java.math.BigInteger b = java.math.BigInteger.valueOf(x.weight(r, k, i, j, 1));
+        for (int i = 0; i < x.behind(0, k, 0); i++) {
+            x = Check.with(kitchen, recipe);
+            for (int j = 0; j < x.behind(0, k, 1); j++) {
+                BigInteger a = BigInteger.valueOf(x.weight(0, k, i, j, 0));
+                BigInteger b = BigInteger.valueOf(x.weight(0, k, i, j, 1));
                 Check.due(told + " weight in least terms", a.gcd(b).intValue(), 1);
                 above = above.multiply(b).add(a.multiply(below));
                 below = below.multiply(b);
-                java.math.BigInteger common = above.gcd(below);
+                BigInteger common = above.gcd(below);
                 above = above.divide(common);
                 below = below.divide(common);
             }
         }
         Check.due(told + " all together", above.longValueExact(), x.told(3));
         Check.due(told + " whole grams", below.longValueExact(), 1);
+    }
+
+    /** Each step behind columns that are unlike at both ends, held against real stacks of leaves. */
+    private static void againstStacks() {
+        Check.sentence(PART, "the stacks lie from below upward as told.");
+        String[] steps = {"fold 2;", "fold 3;", "fold 4;", "book;", "tuck 1;", "tuck 2;", "tuck 3;", "cut 1;", "cut 3;", "turn;",
+            "roll 2;", "turn;tuck 1;turn;book;", "turn;cut 1;fold 3;turn;fold 4;", "book;turn;tuck 1;"};
+        for (String kitchen : new String[] {"slab 12 5 1;", "slab 12 8 2;weight 77;"}) {
+            for (String ahead : UNLIKE) {
+                for (String step : steps) {
+                    againstStacks(kitchen, ahead + step);
+                }
+            }
+        }
+    }
+
+    private static void againstStacks(String kitchen, String recipe) {
+        Model model = new Model();
+        model.tell(kitchen, recipe);
+        String told = kitchen + recipe;
+        int done = (int) model.call("steps", 0, 1);
+        Check.due(told + " done", Check.with(kitchen, recipe).steps(0, 1), done);
+        for (int k = Math.max(0, done - 3); k <= done; k++) {
+            for (int i = 0; i < model.call("behind", 0, k, 0); i++) {
+                ButterLeaves x = Check.with(kitchen, recipe);
+                for (int j = 0; j < model.call("behind", 0, k, 1); j++) {
+                    for (int what = 0; what <= 4; what++) {
+                        Check.due(told + " leaf", x.leaf(0, k, i, j, what), model.call("leaf", 0, k, i, j, what));
+                    }
+                }
+            }
+            againstStacks(Check.with(kitchen, recipe), model, k, told + " behind " + k);
+        }
+    }
+
+    private static void againstStacks(ButterLeaves x, Model model, int k, String told) {
+        for (int what = 0; what <= 2; what++) {
+            Check.due(told + " most", x.most(0, k, what), model.call("most", 0, k, what));
+            Check.due(told + " least", x.least(0, k, what), model.call("least", 0, k, what));
+        }
+        for (int what = 0; what <= 1; what++) {
+            Check.due(told + " joins", x.joins(0, k, what), model.call("joins", 0, k, what));
+            Check.due(told + " trimmed", x.trimmed(0, k, what), model.call("trimmed", 0, k, what));
+        }
+        Check.due(told + " kinds", x.kinds(0, k), model.call("kinds", 0, k));
+        Check.due(told + " block", x.block(0, k), model.call("block", 0, k));
     }
 }

@@ -440,21 +440,20 @@ final class TextSentences {
 
     private static void cutOff(String text, int[] wordFrom, int[] wordTo, boolean kitchen) {
         for (int n = 0; n <= text.length(); n++) {
-            String part = text.substring(0, n);
-            String told = part.trim();
+            String told = text.substring(0, n).trim();
             int place = n;
             for (int w = 0; w < wordFrom.length; w++) {
                 place = n > wordFrom[w] && n < wordTo[w] ? wordFrom[w] : place;
             }
             boolean whole = told.isEmpty() ? kitchen : told.endsWith(";");
-            if (whole && kitchen) {
-                taken(part, 4, 4);
-            } else if (whole) {
-                takenRecipe(part, told.split(";").length);
-            } else if (kitchen) {
-                refused(part, CANNOT_STAND, place);
-            } else {
-                refusedRecipe(part, CANNOT_STAND, place);
+            // What stands behind on the tape is no part of the text.
+            ButterLeaves x = new ButterLeaves();
+            Check.feed(x, text);
+            int good = kitchen ? 24 : 0;
+            Check.due(n + " bytes of '" + text + "'", kitchen ? x.kitchen(n) : x.recipe(n), whole ? good : -9);
+            Check.due("fault of " + n + " bytes of '" + text + "'", x.fault(), whole ? -1 : place);
+            if (whole && !kitchen) {
+                Check.due("steps of " + n + " bytes of '" + text + "'", x.steps(0, 0), told.split(";").length);
             }
         }
     }

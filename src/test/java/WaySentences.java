@@ -24,8 +24,16 @@ final class WaySentences {
 
     /** A way is as told, and told as a recipe it neither breaks nor runs, takes as long and has so many leaves. */
     private static void way(String kitchen, int n, int units, int... passes) {
+        way(Check.with(kitchen), kitchen + " to " + n, n, units, passes);
+    }
+
+    private static void wayFrom(int first, String kitchen, int n, int units, int... passes) {
         ButterLeaves x = Check.with(kitchen);
-        String told = kitchen + " to " + n;
+        x.begin(first);
+        way(x, kitchen + " from " + first + " to " + n, n, units, passes);
+    }
+
+    private static void way(ButterLeaves x, String told, int n, int units, int... passes) {
         Check.due(told + ": units", x.soonest(n, 0), units);
         Check.due(told + ": passes", x.soonest(n, 1), passes.length);
         StringBuilder recipe = new StringBuilder();
@@ -51,12 +59,18 @@ final class WaySentences {
     }
 
     private static void noWay(String kitchen, int n) {
+        noWayFrom(72, kitchen, n);
+    }
+
+    private static void noWayFrom(int first, String kitchen, int n) {
         ButterLeaves x = Check.with(kitchen);
-        Check.due(kitchen + " to " + n + ": units", x.soonest(n, 0), -1);
-        Check.due(kitchen + " to " + n + ": passes", x.soonest(n, 1), -1);
-        Check.due(kitchen + " to " + n + ": fewest, units", x.fewest(n, 0), -1);
-        Check.due(kitchen + " to " + n + ": fewest, passes", x.fewest(n, 1), -1);
-        Check.due(kitchen + " to " + n + ": a pass", x.pass(n, 0), -1);
+        x.begin(first);
+        String told = kitchen + " from " + first + " to " + n;
+        Check.due(told + ": units", x.soonest(n, 0), -1);
+        Check.due(told + ": passes", x.soonest(n, 1), -1);
+        Check.due(told + ": fewest, units", x.fewest(n, 0), -1);
+        Check.due(told + ": fewest, passes", x.fewest(n, 1), -1);
+        Check.due(told + ": a pass", x.pass(n, 0), -1);
     }
 
     private static void waits() {
@@ -137,18 +151,22 @@ final class WaySentences {
             }
         }
         for (int n = 1; n <= 1024; n++) {
-            Check.due("passes to " + n, x.soonest(n, 1), counts[n]);
-            Check.due("units to " + n, x.soonest(n, 0), counts[n] < 0 ? -1 : 3 * counts[n]);
-            int product = 1;
-            int former = 0;
-            for (int i = 0; i < counts[n]; i++) {
-                int f = x.pass(n, i);
-                Check.due("the least f first, to " + n, f >= former && f >= 2 && f <= 4 ? 1 : 0, 1);
-                product *= f;
-                former = f;
-            }
-            Check.due("product of the passes to " + n, counts[n] < 0 ? n : product, n);
+            product(Check.with(easy), n, counts[n]);
         }
+    }
+
+    private static void product(ButterLeaves x, int n, int passes) {
+        Check.due("passes to " + n, x.soonest(n, 1), passes);
+        Check.due("units to " + n, x.soonest(n, 0), passes < 0 ? -1 : 3 * passes);
+        int product = 1;
+        int former = 2;
+        for (int i = 0; i < passes; i++) {
+            int f = x.pass(n, i);
+            Check.due("the least f first, to " + n, f >= former && f <= 4 ? 1 : 0, 1);
+            product *= f;
+            former = f;
+        }
+        Check.due("product of the passes to " + n, passes < 0 ? n : product, n);
     }
 
     private static void neitherBreaksNorRuns() {
@@ -162,6 +180,18 @@ final class WaySentences {
         noWay("high 4;low 0;", 2);
         // The butter itself is too warm in the box, but neither a rest nor a stand is needed.
         way("box 19;high 18;low 0;room 0 0;rub 0;", 2, 3, 2);
+        // As warm as high behind each unit of a rest, of a stand, of a roll and of a fold.
+        wayFrom(83, "box 7;low 5;high 7;rub 0;room 0 11;room 7 0;", 3, 4, 13);
+        way("box 10;low 5;high 9;rub 39;room 0 0;", 3, 8, 173);
+        way("box 10;low 4;high 10;rub 0;room 0 10;", 3, 3, 3);
+        way("box 40;low 40;high 40;rub 0;room 0 40;", 27, 9, 3, 3, 3);
+        way("box 0;low 0;high 0;rub 0;room 0 0;", 27, 9, 3, 3, 3);
+        // The second unit of the roll, and the fold, are in the hour in which they begin.
+        noWayFrom(83, "box 3;low 0;high 6;rub 0;room 0 0;room 7 29;", 3);
+        wayFrom(82, "box 7;low 6;high 12;rub 0;room 0 35;room 7 9;", 3, 4, 13);
+        wayFrom(80, "box 10;low 6;high 14;rub 24;room 0 30;room 7 3;", 3, 6, 33);
+        wayFrom(81, "box 7;low 7;high 12;rub 0;room 0 26;room 7 16;", 3, 4, 13);
+        wayFrom(81, "box 6;low 6;high 8;rub 0;room 0 11;room 7 36;", 3, 3, 3);
         // One pass can be, and no second one behind any wait.
         way("low 3;high 9;rub 5;", 4, 3, 4);
         noWay("low 3;high 9;rub 5;", 6);
@@ -181,11 +211,7 @@ final class WaySentences {
     private static void againstModel(String kitchen) {
         ButterLeaves x = Check.with(kitchen);
         Model model = new Model();
-        byte[] bytes = Check.bytes(kitchen);
-        for (int from = 0; from < bytes.length; from += 20) {
-            model.feed(Check.numbers(bytes, from));
-        }
-        model.kitchen(bytes.length);
+        model.tell(kitchen);
         for (int n : new int[] {2, 6, 12, 27, 36, 108, 243, 486, 729, 1024}) {
             int[] best = model.bestWay(n, false);
             Check.due(kitchen + " units to " + n, x.soonest(n, 0), best == null ? -1 : best[0]);
@@ -220,6 +246,9 @@ final class WaySentences {
         way("box 7;low 4;high 10;rub 42;room 0 3;", 27, 25, 143, 193, 193);
         // As soon: 0 1, 0 13, 13 0.
         way("box 8;low 4;high 11;rub 27;room 0 4;", 9, 7, 3, 13);
+        // As soon: 1 19 0, 5 14 1 and others; the last wait is 0, for those ahead are less.
+        wayFrom(76, "box 9;low 9;high 14;rub 0;room 0 1;room 7 20;", 27, 17, 13, 193, 3);
+        wayFrom(81, "box 3;low 3;high 9;rub 0;room 0 34;room 7 11;", 81, 15, 13, 13, 13, 3);
         Check.sentence(PART, "then the least f).");
         String easy = "low 0;high 40;rub 0;";
         way(easy, 6, 6, 2, 3);
@@ -256,15 +285,17 @@ final class WaySentences {
         Check.due("no pass", x.pass(1, 0), -1);
     }
 
+    /** It is the latest: begun then all is well, begun later it never is. */
     private static void latestIs(String kitchen, String recipe, int unit) {
         ButterLeaves x = Check.with(kitchen, recipe);
         Check.due(kitchen + recipe + " latest", x.latest(0), unit);
-        for (int first = 0; first < 288; first++) {
+        for (int first = Math.max(0, unit); first < 288; first++) {
+            if (first % 100 == 0) {
+                x = Check.with(kitchen, recipe);
+            }
             x.begin(first);
             boolean well = x.wrong(0, 0) + x.wrong(0, 1) + x.wrong(0, 2) == -3;
-            if (first > unit || first == unit) {
-                Check.due(kitchen + recipe + " begun with " + first, well ? 1 : 0, first == unit ? 1 : 0);
-            }
+            Check.due(kitchen + recipe + " begun with " + first, well ? 1 : 0, first == unit ? 1 : 0);
         }
         Check.due(kitchen + recipe + " latest, whatever begin() told", x.latest(0), unit);
     }
@@ -284,6 +315,10 @@ final class WaySentences {
         latestIs("room 0 21;room 1 0;high 5;", "stand 1;", 287);
         latestIs("room 0 0;room 1 21;high 5;", "stand 1;", 11);
         latestIs("room 23 40;room 22 0;high 5;", "stand 1;", 275);
+        // One hour of the day is cold: it must be begun with its first unit.
+        for (int hour = 0; hour < 24; hour++) {
+            latestIs("room " + hour + " 0;room " + (hour + 1) % 24 + " 40;high 4;", "stand 12;", 12 * hour);
+        }
     }
 
     private static void latestOfAll() {

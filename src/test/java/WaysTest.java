@@ -113,11 +113,7 @@ public final class WaysTest {
         for (String kitchen : kitchens) {
             ButterLeaves x = Check.with(kitchen);
             Model model = new Model();
-            byte[] bytes = Check.bytes(kitchen);
-            for (int from = 0; from < bytes.length; from += 20) {
-                model.feed(Check.numbers(bytes, from));
-            }
-            model.kitchen(bytes.length);
+            model.tell(kitchen);
             for (int n : leaves) {
                 int[] best = model.bestWay(n, false);
                 int[] few = model.bestWay(n, true);
