@@ -1,6 +1,7 @@
 import java.util.ArrayList;
 import java.util.Arrays;
 import java.util.List;
+import java.util.Random;
 
 /** Part 4 of 'Terms', its second half, sentence by sentence: several recipes by one bench. */
 final class BenchSentences {
@@ -101,6 +102,32 @@ final class BenchSentences {
         bench(of("stand 36;", "rest 35;stand 1;rest 36;"), 72, 35, 1035, 36);
         bench(of("stand 36;", "rest 36;stand 1;rest 36;"), 73, 0, 0, 1036);
         smallBenches();
+        for (int seed = 1; seed <= 40; seed++) {
+            largeBench(seed, 3, 4);
+        }
+        for (int seed = 1; seed <= 10; seed++) {
+            largeBench(seed, 2, 6);
+            largeBench(seed, 4, 2);
+        }
+        largeBench(1, 4, 3);
+        largeBench(2, 4, 3);
+    }
+
+    /** Up to 12 blocks with units and rests drawn from a fixed seed, held against all orders. */
+    private static void largeBench(int seed, int count, int blocks) {
+        Random random = new Random(seed);
+        int longest = 1 + random.nextInt(36);
+        int longestRest = 1 + random.nextInt(36);
+        String[] recipes = new String[count];
+        for (int r = 0; r < count; r++) {
+            StringBuilder text = new StringBuilder(random.nextInt(3) == 0 ? rest(1 + random.nextInt(longestRest)) : "");
+            for (int i = 0; i < blocks; i++) {
+                text.append("stand ").append(1 + random.nextInt(longest)).append(";");
+                text.append(rest(1 + random.nextInt(longestRest)));
+            }
+            recipes[r] = text.toString();
+        }
+        againstAll(recipes);
     }
 
     /** All pairs of small recipes, held against all orders. */
@@ -130,6 +157,7 @@ final class BenchSentences {
 
     private static void againstAll(String[] recipes) {
         Model model = new Model();
+        model.mostBlocks = 12;
         model.tell("", recipes);
         int[] best = model.bestBench();
         bench(recipes, best[0], best[2], Arrays.copyOfRange(best, 3, best.length));
