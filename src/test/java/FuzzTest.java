@@ -10,6 +10,9 @@ public final class FuzzTest {
     private static final int[] LEAVES = {1, 2, 3, 4, 5, 6, 7, 8, 9, 10, 12, 16, 18, 24, 27, 32, 36, 48, 54, 64, 81, 108,
         243, 256, 324, 486, 512, 729, 972, 1024};
 
+    /** What an object is good for: what later calls answer is free. */
+    private static final int MOST_CALLS = 512;
+
     private final Random random;
     private final ButterLeaves x = new ButterLeaves();
     private final Model model = new Model();
@@ -23,7 +26,7 @@ public final class FuzzTest {
     }
 
     public static void main(String[] args) {
-        int runs = args.length > 0 ? Integer.parseInt(args[0]) : 60;
+        int runs = args.length > 0 ? Integer.parseInt(args[0]) : 45;
         long from = args.length > 1 ? Long.parseLong(args[1]) : 1;
         for (long seed = from; seed < from + runs && Check.allWell(); seed++) {
             new FuzzTest(seed).play();
@@ -32,7 +35,7 @@ public final class FuzzTest {
     }
 
     private void play() {
-        while (calls < 400 && Check.allWell()) {
+        while (calls < MOST_CALLS && Check.allWell()) {
             int pick = random.nextInt(100);
             try {
                 if (pick < 5) {
@@ -244,6 +247,9 @@ public final class FuzzTest {
     }
 
     private void call(String name, long... a) {
+        if (calls >= MOST_CALLS) {
+            return;
+        }
         calls++;
         String shown = name + Arrays.toString(a);
         String want;

@@ -153,6 +153,10 @@ final class WaySentences {
         for (int n = 1; n <= 1024; n++) {
             product(Check.with(easy), n, counts[n]);
         }
+        // A CELL with one of them lies in no rim, so a rim beside it shuts no way out.
+        for (int n = 1; n <= 1024; n += n < 100 ? 1 : 25) {
+            product(Check.with(easy + "slab 7 9 3;"), n, counts[n]);
+        }
     }
 
     private static void product(ButterLeaves x, int n, int passes) {
