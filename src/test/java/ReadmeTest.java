@@ -1,4 +1,3 @@
-import java.io.ByteArrayOutputStream;
 import java.io.IOException;
 import java.nio.file.Files;
 import java.nio.file.Path;
@@ -9,12 +8,12 @@ import java.util.TreeSet;
 import java.util.regex.Matcher;
 import java.util.regex.Pattern;
 import java.util.stream.Stream;
-import javax.tools.ToolProvider;
 
 /** What README.md says of using the class and of its tests: its lines are compiled, run and held against it. */
 public final class ReadmeTest {
     private static final Pattern BLOCK = Pattern.compile("```java\n(.*?)```", Pattern.DOTALL);
-    private static final Pattern ANSWER = Pattern.compile("(?:int|long) \\w+ = ([^/]*); *// (-?\\d+|\\w+Exception)\\b.*");
+    private static final Pattern ANSWER =
+            Pattern.compile("(?:int|long) \\w+ = ([^/]*); *// (-?\\d+|\\w+Exception)\\b.*");
 
     public static void main(String[] args) throws Exception {
         String page = Files.readString(Path.of("README.md"));
@@ -28,22 +27,27 @@ public final class ReadmeTest {
     private static void example(String page) throws Exception {
         Path folder = Files.createTempDirectory("readme");
         Path source = folder.resolve("Example.java");
+        Path compiled = folder.resolve("Example.class");
         Files.writeString(source, program(page));
-        ByteArrayOutputStream said = new ByteArrayOutputStream();
-        int failed = ToolProvider.getSystemJavaCompiler().run(null, said, said, "-cp",
-                System.getProperty("java.class.path"), "-d", folder.toString(), source.toString());
-        if (failed != 0) {
-            Check.say("the example does not compile: " + said);
-            return;
+        String classes = System.getProperty("java.class.path");
+        if (done("javac", "-cp", classes, "-d", folder.toString(), source.toString())) {
+            done("java", "-cp", folder + System.getProperty("path.separator") + classes, "Example");
         }
-        Process run = new ProcessBuilder(Path.of(System.getProperty("java.home"), "bin", "java").toString(), "-cp",
-                folder + System.getProperty("path.separator") + System.getProperty("java.class.path"), "Example")
-                .redirectErrorStream(true).start();
+        Files.deleteIfExists(compiled);
+        Files.delete(source);
+        Files.delete(folder);
+    }
+
+    /** Whether a command ends well; what it says is told if not. */
+    private static boolean done(String... command) throws Exception {
+        Process run = new ProcessBuilder(command).redirectErrorStream(true).start();
         String told = new String(run.getInputStream().readAllBytes());
-        Check.due("the example's exit code", run.waitFor(), 0);
-        if (!told.isEmpty()) {
-            Check.say("the example: " + told);
+        int code = run.waitFor();
+        if (code != 0) {
+            Check.say("the page's lines, by " + command[0] + ", exit code " + code + ": " + told);
+            return false;
         }
+        return true;
     }
 
     /** The page's lines as one program, each answer that it tells being looked at. */
@@ -65,20 +69,22 @@ public final class ReadmeTest {
             }
         }
         Check.due("the page tells answers", answers > 30 ? 1 : 0, 1);
-        return "public class Example {\n" + methods + "public static void main(String[] args) {\n" + calls + "}\n"
-                + "static void due(String call, long got, long want) {\n"
-                + "if (got != want) { System.out.println(call + \" answered \" + got + \", the page says \" + want); }\n}\n}\n";
+        return "public class Example {\nstatic int wrong = 0;\n" + methods
+                + "public static void main(String[] args) {\n" + calls + "System.exit(wrong == 0 ? 0 : 1);\n}\n"
+                + "static void due(String call, Object got, Object want) {\n"
+                + "if (!got.toString().equals(want)) {\nwrong++;\n"
+                + "System.out.println(call + \" answered \" + got + \", the page says \" + want);\n}\n}\n}\n";
     }
 
     private static String looked(String line, String call, String answer) {
         String told = "\"" + call.replace("\"", "'") + "\"";
+        String want = "\"" + answer + "\"";
         if (!answer.endsWith("Exception")) {
             String name = line.split(" ")[1];
-            return line + "\ndue(" + told + ", " + name + ", " + answer + ");";
+            return line + "\ndue(" + told + ", " + name + ", " + want + ");";
         }
-        return "try { " + call + "; System.out.println(" + told + " + \" throws nothing\"); } "
-                + "catch (RuntimeException e) { due(" + told + ", e.getClass().getSimpleName().equals(\"" + answer
-                + "\") ? 1 : 0, 1); }";
+        return "try { due(" + told + ", " + call + ", " + want + "); } "
+                + "catch (RuntimeException e) { due(" + told + ", e.getClass().getSimpleName(), " + want + "); }";
     }
 
     private static void everyMethod(String page) {
